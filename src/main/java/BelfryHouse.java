@@ -490,7 +490,7 @@ public final class BelfryHouse {
             return row ^ put(n, difference, one) ^ put(n, difference, other);
         }
 
-        /** ROUNDS with the bells at places from .. to - 1 changing by twos from the left. */
+        /** By twos from the left; to is behind the last place. */
         static int paired(int n, int row, int from, int to) {
             int made = row;
             for (int place = from; place + 1 < to; place += 2) made = swapped(n, made, place, place + 1);
@@ -857,7 +857,7 @@ public final class BelfryHouse {
         private void compareWithEarlier(int k) {
             int bucket = rows[k] * 0x9E3779B1 >>> 32 - BUCKET_BITS;
             int same = buckets[bucket];
-            while (same > 0 && rows[same] != rows[k]) same = nextInBucket[same];
+            for (int i = 0; i < MOST_STEPS && same > 0 && rows[same] != rows[k]; i++) same = nextInBucket[same];
             nextInBucket[k] = buckets[bucket];
             buckets[bucket] = k;
             latestSame[k] = same;
@@ -908,7 +908,7 @@ public final class BelfryHouse {
             for (int i = 0; i < MOST_ROWS; i++) isMember[i] = false;
             size = 0;
             include(n, Rows.rounds(n));
-            for (int i = 0; i < size; i++) {
+            for (int i = 0; i < size && i < MOST_ROWS; i++) {
                 for (int g = 0; g < neededCount; g++) include(n, Rows.times(n, members[i], needed[g]));
             }
         }
@@ -1411,7 +1411,7 @@ public final class BelfryHouse {
             int field = exponentField(a);
             if (field >= 1075) return a;
             if (field < 1022) return a & SIGN;
-            // at 1022 (from a half up) the leading bit is the half itself: only the half goes down
+            // from a half up to below one: only the half itself has the even number, 0, for its nearest
             if (field == 1022) return (a & FRACTION) == 0 ? a & SIGN : a & SIGN | 0x3ff0000000000000L;
             long one = 1L << 1075 - field;
             long up = a + (one >>> 1);

@@ -6,6 +6,8 @@ final class BandTest {
         ringer();
         refusedBand();
         timesOfKinds();
+        firstRingers();
+        slipsMakeLearnersLater();
         blow();
         clashes();
         lostWithoutConductor();
@@ -83,6 +85,39 @@ final class BandTest {
             int due = 20 * (n * r + p + r / 2) + offset(bell == 3 ? 3 : kind, draw(seed, r, bell, skill));
             Check.due("kind " + kind + " skill " + skill + " bell " + bell, x.blow(0, bell), due);
         }
+    }
+
+    private static void firstRingers() {
+        for (int n = 3; n <= 8; n++) {
+            BelfryHouse x = new BelfryHouse();
+            for (int bell = 1; bell <= 6; bell++) x.ringer(bell, 4, 1);
+            x.stage(n);
+            Check.method(x, "hold;");
+            x.ring(0);
+            Check.due("rounds", x.band(77, 0, 1), 1);
+            for (int bell = 1; bell <= n; bell++) Check.due("steady of skill 10", x.blow(0, bell), 20 * bell + draw(77, 0, bell, 10));
+        }
+    }
+
+    private static void slipsMakeLearnersLater() {
+        BelfryHouse x = learners(3);
+        int seen = 0;
+        for (int seed = 0; seed < 300; seed++) {
+            int[] slips = new int[6];
+            for (int bell = 1; bell <= 5; bell++) slips[bell] = x.slips(bell);
+            int r = seed % 100;
+            x.band(seed, r, 1);
+            for (int bell = 1; bell <= 5; bell++) {
+                if (x.blow(0, bell) == NOT_BLOWN) continue;
+                int p = Integer.toString(x.rowAt(r)).indexOf('0' + bell) + 1;
+                int hand = x.blow(0, bell) - 20 * (6 * r + p + r / 2);
+                Check.due("learner with " + slips[bell] + " slips", hand, draw(seed, r, bell, 0) - 15 + 10 * slips[bell]);
+                if (slips[bell] == 2) seen++;
+            }
+            int lost = x.ringing(3);
+            if (lost != NONE) Check.due("after words the slips are 0", x.slips(lost), 0);
+        }
+        Check.holds("there were slips", seen > 20);
     }
 
     private static void blow() {

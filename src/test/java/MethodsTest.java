@@ -105,6 +105,19 @@ final class MethodsTest {
         bad("cross^,hold;");
         bad("cross^);");
         bad("hold;^;");
+        bad("^crossz;");
+        bad("^across;");
+        bad("^xross;");
+        bad("^fold;");
+        // a number is no sign, though it be the sign's byte, nor the other way about
+        bad("hold ^59");
+        bad("hold ^00000059;");
+        bad("hold ^000000059;");
+        bad("(hold ^44 hold);");
+        bad("(hold ^41;");
+        bad("^40 hold);");
+        bad("when every ^; 0 hold;");
+        bad("when every 99 ^) hold;");
     }
 
     private static void rules() {
@@ -161,6 +174,11 @@ final class MethodsTest {
         bad("places ^2;");
         bad("places ^1;");
         bad("places ^41;");
+        bad("places ^1436;");
+        bad("places ^18;");
+        bad("places ^9;");
+        bad("places^;");
+        bad("places^,1;");
         bad("places ^11;");
         bad("places ^127;");
         bad("places ^123456789;");
@@ -206,6 +224,7 @@ final class MethodsTest {
         bad("when even" + times(7, " and even") + " and ^even hold;");
         bad("when even" + times(7, " and even") + " and ^not 1 at 1 hold;");
         bad("when even" + times(7, " and even") + " and^");
+        bad("when even" + times(7, " and even") + " and ^hold;");
         good("when even" + times(7, " and even") + " hold; when even" + times(7, " and even") + " hold;");
         good("(hold" + times(38, ",hold") + ");");
         bad("(hold" + times(38, ",hold") + ",^hold);");

@@ -13,6 +13,8 @@ final class RunTest {
         run();
         truth();
         refusals();
+        againAndAgain();
+        longRuns();
         Check.finish();
     }
 
@@ -227,5 +229,41 @@ final class RunTest {
         Check.due("nothing has changed", x.run(0), 4);
         Check.due("nothing has changed", x.run(3), 2);
         Check.due("nothing has changed", x.rowAt(4), 123456);
+    }
+
+    private static void againAndAgain() {
+        BelfryHouse x = Check.rung(6, "jump 1 6;", 20);
+        for (int round = 0; round < 3; round++) {
+            x.ring(0);
+            Check.due("go", x.go(6), 6);
+            Check.due("rows of the run before do not count", x.run(3), 6);
+            Check.due("none came twice in this one", x.truth(1, 0), NONE);
+        }
+    }
+
+    /** Many different rows, and many that come again, counted the slow way. */
+    private static void longRuns() {
+        String[] methods = {"when every 2 0 cross; (places 18, jump 2 7);", "when every 7 0 (jump 1 8, jump 3 5); when every 3 1 turn 2 5; cross;",
+            "when every 5 0 turn 1 8; when every 4 2 jump 6 2; when even cross; places 1278;", "when 1 before 2 jump 1 8; when 3 at 4 turn 1 4; jump 2 5;"};
+        for (String method : methods) {
+            BelfryHouse x = Check.rung(8, method, 2000);
+            java.util.Map<Integer, Integer> latest = new java.util.HashMap<>();
+            java.util.Map<Integer, Integer> came = new java.util.HashMap<>();
+            int[] first = new int[10], same = new int[10];
+            for (int k = 1; k <= 2000; k++) {
+                int row = x.rowAt(k), times = came.getOrDefault(row, 0);
+                if (times >= 1 && times <= 9 && first[times] == 0) {
+                    first[times] = k;
+                    same[times] = latest.get(row);
+                }
+                came.put(row, times + 1);
+                latest.put(row, k);
+            }
+            Check.due("different rows of " + method, x.run(3), came.size());
+            for (int times = 1; times <= 9; times++) {
+                Check.due("came " + times + " times", x.truth(times, 0), first[times] == 0 ? NONE : first[times]);
+                Check.due("the one ahead", x.truth(times, 1), first[times] == 0 ? NONE : same[times]);
+            }
+        }
     }
 }
