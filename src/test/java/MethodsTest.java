@@ -113,6 +113,8 @@ final class MethodsTest {
         bad("hold ^59");
         bad("hold ^00000059;");
         bad("hold ^000000059;");
+        bad("hold ^000000590;");
+        bad("hold^000000590");
         bad("(hold ^44 hold);");
         bad("(hold ^41;");
         bad("^40 hold);");
