@@ -1,16 +1,29 @@
+import java.util.LinkedHashSet;
+import java.util.Set;
+
 /** Holds answers against those that are due; a test's main ends with finish(). */
 final class Check {
     private static final int MOST_SHOWN = 20;
+    private static final Set<String> SENTENCES = new LinkedHashSet<>();
+    private static final Set<String> BROKEN = new LinkedHashSet<>();
+    private static String sentence = "";
     private static int asked = 0;
     private static int wrong = 0;
 
     private Check() {
     }
 
+    /** The document's words that the answers from here on stand for. */
+    static void sentence(String words) {
+        sentence = words;
+        SENTENCES.add(words);
+    }
+
     static void due(String call, long got, long want) {
         asked++;
         if (got == want) return;
         wrong++;
+        if (!sentence.isEmpty()) BROKEN.add(sentence);
         if (wrong <= MOST_SHOWN) System.out.println(call + " answered " + got + ", due is " + want);
     }
 
@@ -45,6 +58,8 @@ final class Check {
     }
 
     static void finish() {
+        for (String words : BROKEN) System.out.println("does not hold: " + words);
+        if (!SENTENCES.isEmpty()) System.out.print(SENTENCES.size() + " sentences, ");
         System.out.println(asked + " answers, " + wrong + " wrong");
         if (wrong != 0) System.exit(1);
     }
