@@ -26,6 +26,7 @@ final class EdgesOfMethodsTest {
         signs();
         blanks();
         asLongAsItCanBe();
+        endsWhereTheTapeEnds();
         atLeastOneRule();
         rule();
         cond();
@@ -212,6 +213,10 @@ final class EdgesOfMethodsTest {
                 String spoiled = word.substring(0, i) + Character.toUpperCase(word.charAt(i)) + word.substring(i + 1);
                 Check.due(spoiled, fault(6, spoiled + ";"), 0);
             }
+            for (int i = 0; i < word.length(); i++) {
+                String spoiled = word.substring(0, i) + "x" + word.substring(i + 1);
+                Check.due(spoiled, fault(6, spoiled + ";"), 0);
+            }
             Check.due("a WORD that begins as one", fault(6, word + "s;"), 0);
             Check.due("one that ends as one", fault(6, "a" + word + ";"), 0);
             Check.due("one too short", fault(6, word.substring(1) + ";"), 0);
@@ -266,6 +271,17 @@ final class EdgesOfMethodsTest {
         bad(6, "(hold)^);");
         bad(6, "(hold,^,hold);");
         bad(6, "hold;^;");
+        // a NUMBER is no SIGN, though it be a SIGN's byte, and a SIGN is no NUMBER
+        bad(6, "hold ^59");
+        bad(6, "hold ^000000059");
+        bad(6, "(hold ^41;");
+        bad(6, "(hold ^000000041;");
+        bad(6, "(hold ^44 hold);");
+        bad(6, "(hold ^000000044 hold);");
+        bad(6, "^40 hold);");
+        bad(6, "^000000040 hold);");
+        bad(6, "when every 99 ^; hold;");
+        bad(6, "when every ^) 0 hold;");
         bad(6, "hold^:");
         bad(6, "^[hold];");
         bad(6, "(hold^.hold);");
@@ -300,6 +316,26 @@ final class EdgesOfMethodsTest {
         good(6, "places 12;");
         bad(6, "places ^1 2;");
         bad(6, "places 12 ^34;");
+    }
+
+    /** What stood on THE TAPE ahead of this text, or behind 600 bytes, is no part of its last TOKEN. */
+    private static void endsWhereTheTapeEnds() {
+        Check.sentence("or the text's length, if it ends too early");
+        String[] olds = {"turn 1 23456;;;", "holdxxxxxxxxxxxx", "             ;;;", "111111111111111", ";;;;;;;;;;;;;;;"};
+        String[] texts = {"turn 1 2", "turn 1 ", "hold", "hold ", "", "when even", "(hold", "(hold)", "twice"};
+        for (String old : olds) {
+            for (String text : texts) {
+                BelfryHouse x = new BelfryHouse();
+                Check.method(x, old);
+                Check.due("fault of " + text + " behind " + old, Check.method(x, text), -10 - text.length());
+            }
+        }
+        for (String text : texts) {
+            String full = " ".repeat(600 - text.length()) + text;
+            Check.due("fault of 600 bytes, at their end " + text, fault(6, full), 600);
+        }
+        Check.due("hold; at the end", fault(6, " ".repeat(595) + "hold;"), -1);
+        Check.due("a long NUMBER at the end", fault(6, " ".repeat(590) + "1234567890"), 590);
     }
 
     private static void atLeastOneRule() {
