@@ -575,7 +575,8 @@ public final class BelfryHouse {
 
     /** Reads a METHOD. The first refusal stays THE FAULT, so that what is read behind it does no harm. */
     private static final class Reader {
-        private static final int END = 0, WORD = 1, NUMBER = 2, SIGN = 3, WRONG = 4;
+        private static final int END = 0, BLANK = 1, WORD = 2, NUMBER = 3, SIGN = 4, WRONG = 5;
+        private static final int NO_NUMBER = -1;
         private static final int MOST_DIGITS = 8, MOST_CHANGES = 40, MOST_ABOUT = 6, MOST_EVERY = 99;
 
         final Method method = new Method();
@@ -586,7 +587,6 @@ public final class BelfryHouse {
         private int kind = END;
         private int tokenFrom = 0;
         private int tokenTo = 0;
-        private int value = 0;
 
         Reader(byte[] text, int length, int n) {
             this.text = text;
@@ -598,46 +598,21 @@ public final class BelfryHouse {
             if (fault < 0) fault = tokenFrom;
         }
 
-        private static boolean isBlank(int c) {
-            return c == 32 || c == 10;
-        }
-
-        private static boolean isLetter(int c) {
-            return c >= 'a' && c <= 'z';
-        }
-
-        private static boolean isDigit(int c) {
-            return c >= '0' && c <= '9';
-        }
-
-        private static boolean isSignByte(int c) {
-            return c == ';' || c == '(' || c == ')' || c == ',';
+        private static int kindOf(int c) {
+            if (c == 32 || c == 10) return BLANK;
+            if (c >= 'a' && c <= 'z') return WORD;
+            if (c >= '0' && c <= '9') return NUMBER;
+            return c == ';' || c == '(' || c == ')' || c == ',' ? SIGN : WRONG;
         }
 
         private void nextToken() {
-            while (tokenTo < length && isBlank(text[tokenTo])) tokenTo++;
+            while (tokenTo < length && kindOf(text[tokenTo]) == BLANK) tokenTo++;
             tokenFrom = tokenTo;
-            if (tokenFrom >= length) {
-                kind = END;
-            } else if (isLetter(text[tokenFrom])) {
-                kind = WORD;
-                while (tokenTo < length && isLetter(text[tokenTo])) tokenTo++;
-            } else if (isDigit(text[tokenFrom])) {
-                takeNumber();
-            } else {
-                value = text[tokenFrom];
-                kind = isSignByte(value) ? SIGN : WRONG;
-                tokenTo++;
-            }
-        }
-
-        private void takeNumber() {
-            value = 0;
-            while (tokenTo < length && isDigit(text[tokenTo])) {
-                if (tokenTo - tokenFrom < MOST_DIGITS) value = value * 10 + text[tokenTo] - '0';
-                tokenTo++;
-            }
-            kind = tokenTo - tokenFrom > MOST_DIGITS ? WRONG : NUMBER;
+            kind = tokenFrom < length ? kindOf(text[tokenFrom]) : END;
+            if (kind == END) return;
+            tokenTo++;
+            boolean isLong = kind == WORD || kind == NUMBER;
+            while (isLong && tokenTo < length && kindOf(text[tokenTo]) == kind) tokenTo++;
         }
 
         private boolean isWord(String word) {
@@ -655,24 +630,27 @@ public final class BelfryHouse {
         }
 
         private boolean takesSign(char sign) {
-            boolean is = kind == SIGN && value == sign;
+            boolean is = kind == SIGN && text[tokenFrom] == sign;
             if (is) nextToken();
             return is;
         }
 
-        private int numberWithin(int least, int most) {
-            if (kind != NUMBER || value < least || value > most) {
-                refuse();
-                return least;
-            }
-            int number = value;
-            nextToken();
+        private int number() {
+            if (kind != NUMBER || tokenTo - tokenFrom > MOST_DIGITS) return NO_NUMBER;
+            int number = 0;
+            for (int i = tokenFrom; i < tokenTo; i++) number = number * 10 + text[i] - '0';
             return number;
         }
 
-        private int numberBut(int other) {
-            if (kind == NUMBER && value == other) refuse();
-            return numberWithin(1, n);
+        /** The least, if what stands here is refused. */
+        private int numberWithin(int least, int most, int but) {
+            int number = number();
+            if (number < least || number > most || number == but) {
+                refuse();
+                return least;
+            }
+            nextToken();
+            return number;
         }
 
         void readMethod() {
@@ -707,17 +685,17 @@ public final class BelfryHouse {
             } else if (takesWord("called")) {
                 rule.require(not, Rule.CALLED, 0, 0);
             } else if (takesWord("every")) {
-                int every = numberWithin(1, MOST_EVERY);
-                rule.require(not, Rule.EVERY, every, numberWithin(0, every - 1));
+                int every = numberWithin(1, MOST_EVERY, NO_NUMBER);
+                rule.require(not, Rule.EVERY, every, numberWithin(0, every - 1, NO_NUMBER));
             } else {
                 refuse();
             }
         }
 
         private void readPlacing(Rule rule, boolean not) {
-            int bell = numberWithin(1, n);
-            if (takesWord("at")) rule.require(not, Rule.AT, bell, numberWithin(1, n));
-            else if (takesWord("before")) rule.require(not, Rule.BEFORE, bell, numberBut(bell));
+            int bell = numberWithin(1, n, NO_NUMBER);
+            if (takesWord("at")) rule.require(not, Rule.AT, bell, numberWithin(1, n, NO_NUMBER));
+            else if (takesWord("before")) rule.require(not, Rule.BEFORE, bell, numberWithin(1, n, bell));
             else refuse();
         }
 
@@ -775,14 +753,14 @@ public final class BelfryHouse {
         }
 
         private int readJump(int rounds) {
-            int from = numberWithin(1, n);
-            int to = numberBut(from);
+            int from = numberWithin(1, n, NO_NUMBER);
+            int to = numberWithin(1, n, from);
             return Rows.jumped(n, rounds, from - 1, to - 1);
         }
 
         private int readTurn(int rounds) {
-            int from = numberWithin(1, n);
-            int to = numberWithin(from + 1, n);
+            int from = numberWithin(1, n, NO_NUMBER);
+            int to = numberWithin(from + 1, n, NO_NUMBER);
             return fault < 0 ? Rows.turned(n, rounds, from - 1, to - 1) : rounds;
         }
     }
