@@ -34,6 +34,7 @@ final class EdgesOfRecordingsTest {
         greatest();
         root();
         lineRefuses();
+        lineAnew();
         along();
         rint();
         alongRefuses();
@@ -496,6 +497,38 @@ final class EdgesOfRecordingsTest {
         Check.holds("0 to 3", x.line(0) != 0 && x.line(1) != 0 && x.line(2) != 0 && x.line(3) != 0);
         Check.due("-1 of none", noted().line(-1), 0);
         Check.due("4 of none", noted().line(4), 0);
+    }
+
+    private static void lineAnew() {
+        Check.sentence("THE LINE by the m BLOWS IN ORDER");
+        BelfryHouse x = noted(0, 0, 300);
+        Check.due("a great ERROR", x.line(2), bits(100.0));
+        x.wipe();
+        long[] none = {NAN, NAN, 0, NAN};
+        for (int what = 0; what < 4; what++) Check.due("none behind wipe: " + what, x.line(what), none[what]);
+        lineOfThree(x);
+        x = noted(0, 0, 300);
+        Check.due("a great ERROR", x.line(2), bits(100.0));
+        x.wipe();
+        lineOfThree(x);
+        x = noted(0, 0, 300);
+        Check.due("a great ERROR", x.line(2), bits(100.0));
+        x.stage(3);
+        for (int what = 0; what < 4; what++) Check.due("none behind stage: " + what, x.line(what), none[what]);
+        lineOfThree(x);
+        // GAP 100, LEAD 0
+        x = noted(0, 100);
+        Check.due("on the line", x.line(2), 0);
+        x.note(1, bits(50));
+        Check.due("a BLOW between", x.line(2), bits(0.0));
+        x.note(1, bits(54));
+        Check.holds("and one that is not on the line", x.line(2) != 0);
+    }
+
+    private static void lineOfThree(BelfryHouse x) {
+        for (int time : new int[] {0, 0, 3}) x.note(1, bits(time));
+        double[] due = {1.5, -0.5, 1.0, Math.sqrt(1.5 / 3)};
+        for (int what = 0; what < 4; what++) Check.due("of these three alone: " + what, x.line(what), bits(due[what]));
     }
 
     private static void along() {
